@@ -571,11 +571,11 @@ public final class NobodySails {
     }
 
     private static boolean isIn(int i, int set) {
-        return (set >> i & 1) == 1;
+        return ((set >> i) & 1) == 1;
     }
 
     private static boolean isSetOfHours(int set) {
-        return isWithin(set, 1, (1 << MOST_HOURS + 1) - 1);
+        return isWithin(set, 1, (1 << (MOST_HOURS + 1)) - 1);
     }
 
     private static boolean isTold(int inches, int slip) {
@@ -677,7 +677,7 @@ public final class NobodySails {
 
         void append(long w, int n) {
             for (int i = n - 1; i >= 0 && length < MOST_BYTES; i--) {
-                bytes[length] = (byte) (w >>> 8 * i);
+                bytes[length] = (byte) (w >>> (8 * i));
                 length++;
             }
         }
@@ -1119,7 +1119,7 @@ public final class NobodySails {
             if (!isWithin(wind, 0, MOST_WINDS - 1)) {
                 return cell;
             }
-            int way = windWays[wind] + heading & WAYS - 1;
+            int way = (windWays[wind] + heading) & (WAYS - 1);
             int x = cell % MOST_WIDE + EAST[way];
             int y = cell / MOST_WIDE + SOUTH[way];
             return isInside(x, y) ? x + MOST_WIDE * y : cell;
@@ -1432,7 +1432,7 @@ public final class NobodySails {
         int inventedFor(int g) {
             int set = 0;
             for (int sign = 0; sign < signs; sign++) {
-                if (kinds[sign] == MADE || kinds[sign] == TOLD && gains[sign] > g) {
+                if (kinds[sign] == MADE || (kinds[sign] == TOLD && gains[sign] > g)) {
                     set |= 1 << sign;
                 }
             }

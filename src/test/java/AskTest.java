@@ -8,6 +8,7 @@ final class AskTest {
   public static void main(String[] args) {
     images();
     imagesStay();
+    imagesWhole();
     kinds();
     bodies();
     traces();
@@ -90,6 +91,45 @@ final class AskTest {
     due.is(1, x, "restore", 1);
     due.is(6, x, "count", 1);
     due.is(1, x, "fault");
+  }
+
+  /** The winds, their odds, the land, the men and the stories come back, and so does a stranded ship. */
+  private static void imagesWhole() {
+    NobodySails x = Due.at("sea 9 3;wind e 1;wind s 2;land 1 1;ship 0 1 0 50;man 7 8;sign gone 1;sign told 2;"
+        + "story 3 leaves 0;story 5 bars 1;");
+    due.is(2, x, "row", 0, 0, 2);
+    due.is(1, x, "set", 0, 1, 1);
+    due.is(1, x, "put", 0, 1, 0);
+    due.is(1, x, "blown", 0, 0, 1);
+    due.is(1, x, "image", 0);
+    due.reads(x, 1, "sea 9 3;wind w 7;wind n 4;land 2 2;ship 3 9 9 90;man 1 1;sign made 3;sign left 4;story 9 bars 0;");
+    due.is(1, x, "put", 4, 1, 0);
+    due.is(1, x, "restore", 0);
+    due.is(1, x, "ship", 4);
+    due.is(2, x, "blown", 0, 0, 1);
+    due.is(1, x, "ship", 0);
+    due.is(2, x, "ship", 2);
+    due.is(1, x, "put", 3, 1, 0);
+    due.is(2, x, "blown", 0, 0, 2);
+    due.is(4, x, "ship", 0);
+    due.is(2, x, "ship", 1);
+    due.is(0, x, "ship", 4);
+    due.is(1, x, "herself", 3, 4, 0, 1, 0);
+    due.is(3, x, "herself", 3, 4, 0, 1, 1);
+    due.is(Due.BAD, x, "put", 1, 1, 0);
+    due.is(1, x, "put", 2, 2, 0);
+    due.is(1, x, "leave", 7, 0, 0);
+    due.is(0, x, "leave", 6, 7, 0);
+    due.is(1, x, "leave", 6, 8, 0);
+    due.is(3, x, "odds", 0, 0, 0);
+    due.is(13, x, "odds", 0, 0, 1);
+    due.is(1, x, "sign", 0, 0);
+    due.is(2, x, "sign", 1, 2);
+    due.is(2, x, "kind", 0);
+    due.is(50, x, "deep", 0);
+    due.is(1, x, "put", 0, 0, 9);
+    due.is(1, x, "sailed", 1, 1, 1);
+    due.is(10, x, "ship", 2);
   }
 
   private static void kinds() {

@@ -56,6 +56,12 @@ final class CourtTest {
     due.is(0b11000000, x, "madeUp", 4);
     due.is(0b10000000, x, "madeUp", 5);
     due.is(0b10000000, x, "madeUp", 9);
+    x = Due.at(SHIP + "sign made 0;sign drifted 9;");
+    due.is(1, x, "madeUp", 0);
+    due.is(0, x, "oath", 8);
+    x = Due.at(SHIP + "sign told 9;".repeat(10));
+    due.is(1023, x, "madeUp", 8);
+    due.is(1023, x, "oath", 9);
     for (int g : new int[] {-1, 10}) {
       due.is(Due.BAD, x, "oath", g);
       due.is(Due.BAD, x, "madeUp", g);

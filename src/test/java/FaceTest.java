@@ -64,6 +64,10 @@ final class FaceTest {
     for (String member : FACE.split(" ")) {
       names.add(member.replaceAll("[(:].*", ""));
     }
+    for (Method m : NobodySails.class.getDeclaredMethods()) {
+      boolean isPrivate = Modifier.isPrivate(m.getModifiers());
+      due.same(m.getName() + " is a name of the face", names.contains(m.getName()) == isPrivate ? 1 : 0, 0);
+    }
     due.same("some twelve classes", NobodySails.class.getDeclaredClasses().length < 12 ? 1 : 0, 1);
     for (Class<?> inside : NobodySails.class.getDeclaredClasses()) {
       due.same(inside.getName() + " is static", Modifier.isStatic(inside.getModifiers()) ? 1 : 0, 1);

@@ -93,7 +93,7 @@ final class HerselfTest {
     for (Plain p : SEAS) {
       NobodySails x = Due.at(p.text());
       int from = p.wide > 2 ? 17 : 0;
-      for (int h = 0; h < 8; h += 3) {
+      for (int h : new int[] {0, 3, 7}) {
         for (int n = 0; n <= 8; n += n < 4 ? 1 : 4) {
           brings(x, p, from, h, n);
         }
@@ -203,6 +203,9 @@ final class HerselfTest {
       }
     }
     due.is(1, x, "herself", 0, 2, 0, 2, 0);
+    due.is(1, x, "boat", 0, 0, 1);
+    due.is(16, x, "boat", 0, 2, 1);
+    due.is(17, x, "boat", 17, 0, 0);
     due.is(508, x, "could", 0, 2);
     for (int h : new int[] {-1, 8}) {
       due.is(Due.BAD, x, "herself", 0, 0, h, 0, 0);

@@ -57,10 +57,14 @@ final class RowsTest {
   private static void items() {
     NobodySails x = Due.at("sea 9 8;wind e 1;ship 0 0 0 9;");
     x.put(0, 0, 0);
-    due.is(3, x, "row", 2, 1, 3);
-    due.is(7, x, "set", 2, 1, 7);
-    due.is(3, x, "row", 2, 1, 3);
-    due.is(3, x, "blown", 2, 0, 3);
+    due.is(40, x, "row", 7, 1, 40);
+    for (int i = 0; i < 40; i++) {
+      due.is(7, x, "set", 7, i, 7);
+    }
+    due.is(40, x, "row", 7, 1, 40);
+    due.is(40, x, "blown", 7, 0, 40);
+    due.is(40, x, "copy", 7, 0, 7, 0, 40);
+    due.is(40, x, "drop", 7);
 
     due.is(1, x, "row", 0, 0, 1);
     due.is(127, x, "set", 0, 0, 127);

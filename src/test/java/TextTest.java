@@ -13,6 +13,7 @@ final class TextTest {
     room();
     stories();
     ends();
+    anew();
     stays();
     due.end();
   }
@@ -127,6 +128,11 @@ final class TextTest {
     due.faulty(x, 1, 0, "");
     due.faulty(x, 1, 3, "   ");
     due.faulty(x, 1, 0, "wind n 1;");
+    due.faulty(x, 1, 0, "3 2;wind n 1;ship 0 1 2 9;");
+    due.faulty(x, 1, 17, HEAD + "0 1 2 9;");
+    due.faulty(x, 1, 8, "sea 3 2;n 1;ship 0 1 2 9;");
+    due.faulty(x, 1, 30, SHIP + "1 1;");
+    due.faulty(x, 1, 30, SHIP + "told 1;");
     due.faulty(x, 1, 8, "sea 3 2;ship 0 1 2 9;");
     due.faulty(x, 1, 8, "sea 3 2;land 0 0;");
     due.faulty(x, 1, 17, HEAD + "sea 3 2;");
@@ -205,6 +211,40 @@ final class TextTest {
       }
       boolean cutWord = tail < length && Character.isLetter(whole.charAt(length));
       due.same("sea() of \"" + text + "\"", got, complete ? 0 : Due.NOT - 100 - (cutWord ? tail : length));
+    }
+  }
+
+  /** Nothing of a sea that stood before shows in one that is read, however many were. */
+  private static void anew() {
+    NobodySails x = new NobodySails();
+    String much = "sea 16 8;wind nw 9;wind n 1;land 0 0;land 15 7;land 1 1;ship 7 20 40 200;man 200 50;man 1 1;"
+        + "sign made 9;sign told 0;story 9 leaves 0 bars 1;story 1 leaves 1 bars 0;";
+    String little = SHIP + "sign told 1;sign gone 2;story 1;";
+    for (int i = 0; i < 3; i++) {
+      due.reads(x, 2, much);
+      due.is(3, x, "count", 3);
+      due.is(1, x, "put", 3, 3, 7);
+      due.reads(x, 2, much);
+      due.is(Due.STATE, x, "ship", 0);
+      due.is(2, x, "count", 2);
+      due.is(1, x, "put", 3, 3, 7);
+      due.faulty(x, 1, much.length(), much + "x");
+      due.is(10, x, "count", 8);
+      due.is(7, x, "ship", 2);
+      due.reads(x, 1, little);
+      long[] counts = {0, 6, 1, 0, 0, 2, 1, 0, 1};
+      for (int what = 0; what < counts.length; what++) {
+        due.is(counts[what], x, "count", what);
+      }
+      due.is(Due.STATE, x, "ship", 0);
+      due.is(0, x, "sign", 0, 1);
+      due.is(0, x, "sign", 0, 2);
+      due.is(0, x, "sign", 1, 1);
+      due.is(0, x, "sign", 1, 2);
+      due.is(1, x, "put", 0, 0, 0);
+      due.is(1, x, "put", 1, 1, 0);
+      due.is(Due.BAD, x, "put", 3, 0, 0);
+      due.is(0, x, "leave", 200, 50, 0);
     }
   }
 

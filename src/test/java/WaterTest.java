@@ -69,6 +69,9 @@ final class WaterTest {
     due.is(1, x, "deep", 59);
     due.is(0, x, "deep", 60);
     due.is(0, x, "deep", 200);
+    x = Due.at("sea 1 1;wind n 1;ship 0 1 0 60;");
+    due.is(60, x, "deep", 0);
+    due.is(1, x, "deep", 59);
     x = Due.at("sea 1 1;wind n 1;ship 0 0 0 60;");
     due.is(Due.NONE, x, "deep", 59);
     due.is(0, x, "deep", 60);
