@@ -142,6 +142,8 @@ final class CourtTest {
     due.is(2, x, "odds", 1, 0, 1);
     due.is(Due.NONE, x, "next", 0);
     due.is(Due.BAD, x, "next", 1);
+    x = Due.at(SHIP + "sign told 0;story 1 leaves 0;");
+    due.is(0, x, "likeliest", 0);
   }
 
   /** Ten signs that are left and seen: 4 to the 10th against 2 to the 10th. */

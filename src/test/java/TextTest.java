@@ -80,6 +80,16 @@ final class TextTest {
     due.faulty(x, 1, 0, "se 3 2;");
     due.faulty(x, 1, 8, "sea 3 2;windn 1;");
     due.faulty(x, 1, 8, "sea 3 2;:");
+    due.faulty(x, 1, 0, "seaz 3 2;");
+    due.faulty(x, 1, 3, "sea{ 3 2;");
+    due.faulty(x, 1, 3, "sea` 3 2;");
+    due.faulty(x, 1, 5, "sea 3/ 2;");
+    due.faulty(x, 1, 5, "sea 3: 2;");
+    // What a longer tape left behind is not read again.
+    due.faulty(x, 1, 0, "7".repeat(40));
+    due.faulty(x, 1, 7, "sea 3 2");
+    due.faulty(x, 1, 0, "x".repeat(40));
+    due.faulty(x, 1, 12, "sea 3 2;wind");
   }
 
   private static void numbers() {
