@@ -80,6 +80,9 @@ final class TextTest {
     due.faulty(x, 1, 0, "se 3 2;");
     due.faulty(x, 1, 8, "sea 3 2;windn 1;");
     due.faulty(x, 1, 8, "sea 3 2;:");
+    due.faulty(x, 1, 7, "sea 3 2:wind n 1;ship 0 1 2 9;");
+    due.faulty(x, 1, 8, "sea 3 2 1234wind n 1;ship 0 1 2 9;");
+    due.faulty(x, 1, 29, HEAD + "ship 0 1 2 9,");
     due.faulty(x, 1, 0, "seaz 3 2;");
     due.faulty(x, 1, 3, "sea{ 3 2;");
     due.faulty(x, 1, 3, "sea` 3 2;");
