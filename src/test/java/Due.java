@@ -18,9 +18,19 @@ final class Due {
   private final String name;
   private int compared;
   private int wrong;
+  private String sentence = "";
 
   Due(String name) {
     this.name = name;
+  }
+
+  /** What is compared from now on belongs to a sentence, which is told with what is wrong. */
+  void belongsTo(String words) {
+    sentence = words.isEmpty() ? "" : " (\"" + words + "\")";
+  }
+
+  int compared() {
+    return compared;
   }
 
   /** The call must answer what is due; tells the answer. */
@@ -34,7 +44,7 @@ final class Due {
     compared++;
     if (got != want) {
       wrong++;
-      System.out.println(name + ": " + what + " answered " + got + ", due is " + want);
+      System.out.println(name + ": " + what + " answered " + got + ", due is " + want + sentence);
     }
   }
 
@@ -42,7 +52,7 @@ final class Due {
     compared++;
     if (!got.equals(want)) {
       wrong++;
-      System.out.println(name + ": " + what + " is " + got + ", due is " + want);
+      System.out.println(name + ": " + what + " is " + got + ", due is " + want + sentence);
     }
   }
 
