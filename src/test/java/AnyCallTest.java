@@ -3,7 +3,7 @@ import java.util.Arrays;
 import java.util.Comparator;
 import java.util.Random;
 
-/** Runs of any calls with any arguments: none throws, and what is refused changes nothing but status(). */
+/** Runs of any calls with any arguments: none throws, and each is answered as by the model. */
 final class AnyCallTest {
   private static final Due due = new Due("AnyCallTest");
   private static final long[] EDGES = {-1, 0, 1, 2, 3, 7, 8, 9, 15, 16, 17, 31, 40, 41, 50, 100, 127, 128, 200, 511,
@@ -37,49 +37,34 @@ final class AnyCallTest {
 
   private static void run(Random random) {
     NobodySails x = new NobodySails();
-    for (int i = 0; i < 200; i++) {
-      if (random.nextInt(12) == 0) {
-        Due.feed(x, TEXTS[random.nextInt(TEXTS.length)]);
-        x.sea();
-        x.put(random.nextInt(3), random.nextInt(3), random.nextInt(9));
+    Model model = new Model();
+    for (int i = 0; i < 150; i++) {
+      if (random.nextInt(15) == 0) {
+        tell(x, model, TEXTS[random.nextInt(TEXTS.length)]);
+        both(x, model, "put", random.nextInt(3), random.nextInt(3), random.nextInt(9));
       }
-      oneCall(x, random);
+      Method m = CALLS[random.nextInt(CALLS.length)];
+      long[] arguments = new long[m.getParameterCount()];
+      for (int k = 0; k < arguments.length; k++) {
+        arguments[k] = random.nextInt(3) == 0 ? EDGES[random.nextInt(EDGES.length)] : random.nextInt(6);
+      }
+      both(x, model, m.getName(), arguments);
     }
   }
 
-  private static void oneCall(NobodySails x, Random random) {
-    Method m = CALLS[random.nextInt(CALLS.length)];
-    long[] arguments = new long[m.getParameterCount()];
-    for (int i = 0; i < arguments.length; i++) {
-      arguments[i] = random.nextInt(3) == 0 ? EDGES[random.nextInt(EDGES.length)] : random.nextInt(6);
-    }
-    boolean copied = m.getName().equals("ask") || m.getName().equals("sea");
-    String before = copied ? "" : seen(x);
-    int status = x.status();
-    long answer = Due.call(x, m.getName(), arguments);
-    String call = Due.describe(m.getName(), arguments);
-    if (answer >= Due.NOT) {
-      return;
-    }
-    if (!copied) {
-      due.same(call + " leaves all", seen(x), before);
-    }
-    boolean found = answer < Due.NOT - 10 && answer > Due.NOT - 16;
-    due.same(call + " leaves status()", x.status(), found ? Due.NOT - 10 - answer : status);
+  private static void both(NobodySails x, Model model, String name, long... arguments) {
+    due.is(model.call(name, arguments), x, name, arguments);
   }
 
-  private static String seen(NobodySails x) {
-    StringBuilder text = new StringBuilder();
-    for (int what = 0; what <= 8; what++) {
-      text.append(x.count(what)).append(' ').append(x.ship(what)).append(' ');
+  private static void tell(NobodySails x, Model model, String text) {
+    for (int i = 0; i < text.length(); i += 8) {
+      int n = Math.min(8, text.length() - i);
+      long w = 0;
+      for (int k = 0; k < n; k++) {
+        w = w << 8 | text.charAt(i + k);
+      }
+      both(x, model, "feed", w, n);
     }
-    for (int sign = 0; sign < 10; sign++) {
-      text.append(x.kind(sign)).append(x.sign(sign, 0)).append(x.sign(sign, 1)).append(x.sign(sign, 2)).append(' ');
-    }
-    for (int i = 0; i < 16; i++) {
-      text.append(x.trace(i)).append(' ');
-    }
-    text.append(x.fault()).append(' ').append(x.odds(0, 0, 1)).append(' ').append(x.could(0, 1)).append(' ');
-    return text.append(x.leave(5, 5, 0)).append(' ').append(x.deep(0)).append(' ').append(x.seemed(200, 0, 1)).toString();
+    both(x, model, "sea");
   }
 }

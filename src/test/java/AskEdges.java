@@ -343,8 +343,9 @@ final class AskEdges {
     }
   }
 
-  /** An object answers as promised up to its 512th call. */
   private void lastCall() {
+    s.says(Sentences.TERMS, "An object is used for at most 512 calls after it has been made; "
+        + "what later calls answer is free.");
     s.at("sea 2 1;wind e 1;ship 0 0 0 9;");
     s.is(1, "put", 0, 0, 0);
     int made = 6;

@@ -1,6 +1,8 @@
 import java.lang.reflect.InvocationTargetException;
 import java.lang.reflect.Method;
 import java.nio.charset.StandardCharsets;
+import java.util.IdentityHashMap;
+import java.util.Map;
 
 /** Compares answers with what is due, and ends a test with exit code 1 if one was wrong. */
 final class Due {
@@ -14,6 +16,9 @@ final class Due {
   static final long KIND = NOT - 13;
   static final long SIZE = NOT - 14;
   static final long STORE = NOT - 15;
+
+  private static final int MOST_CALLS = 512;
+  private static final Map<NobodySails, Integer> CALLS = new IdentityHashMap<>();
 
   private final String name;
   private int compared;
@@ -59,6 +64,7 @@ final class Due {
   /** The text must be refused at a place with a fault. */
   void faulty(NobodySails x, int fault, int place, String text) {
     feed(x, text);
+    count(x, 3);
     same("sea() of \"" + text + "\"", x.sea(), NOT - 100 - place);
     same("fault() of \"" + text + "\"", x.fault(), fault);
     same("count(7) behind it", x.count(7), 0);
@@ -66,6 +72,7 @@ final class Due {
 
   void reads(NobodySails x, long stories, String text) {
     feed(x, text);
+    count(x, 1);
     same("sea() of \"" + text + "\"", x.sea(), stories);
   }
 
@@ -76,8 +83,16 @@ final class Due {
     }
   }
 
+  /** Nothing is promised of an object after its 512th call, so a test makes no more of them. */
+  private static void count(NobodySails x, int calls) {
+    if (CALLS.merge(x, calls, Integer::sum) > MOST_CALLS) {
+      throw new IllegalStateException("a test calls one object more than " + MOST_CALLS + " times");
+    }
+  }
+
   static void feed(NobodySails x, String text) {
     byte[] bytes = text.getBytes(StandardCharsets.ISO_8859_1);
+    count(x, (bytes.length + 7) / 8);
     for (int i = 0; i < bytes.length; i += 8) {
       int n = Math.min(8, bytes.length - i);
       long w = 0;
@@ -92,6 +107,7 @@ final class Due {
   static NobodySails at(String text) {
     NobodySails x = new NobodySails();
     feed(x, text);
+    count(x, 1);
     if (x.sea() <= NOT) {
       throw new IllegalStateException("fault " + x.fault() + " in " + text);
     }
@@ -99,6 +115,7 @@ final class Due {
   }
 
   static long call(NobodySails x, String method, long... arguments) {
+    count(x, 1);
     for (Method m : NobodySails.class.getDeclaredMethods()) {
       if (m.getName().equals(method) && m.getParameterCount() == arguments.length) {
         Class<?>[] types = m.getParameterTypes();

@@ -91,20 +91,20 @@ final class HerselfTest {
 
   public static void main(String[] args) {
     for (Plain p : SEAS) {
-      NobodySails x = Due.at(p.text());
       int from = p.wide > 2 ? 17 : 0;
       for (int h : new int[] {0, 3, 7}) {
         for (int n = 0; n <= 8; n += n < 4 ? 1 : 4) {
-          brings(x, p, from, h, n);
+          brings(p, from, h, n);
         }
       }
-      leaves(x, p, from);
+      leaves(p, from);
     }
     refused();
     due.end();
   }
 
-  private static void brings(NobodySails x, Plain p, int from, int h, int n) {
+  private static void brings(Plain p, int from, int h, int n) {
+    NobodySails x = Due.at(p.text());
     p.enumerate(from, h, n);
     long all = BigInteger.valueOf(p.total()).pow(n).longValueExact();
     int likeliest = 0;
@@ -120,13 +120,14 @@ final class HerselfTest {
     due.is(likeliest, x, "boat", from, h, n);
   }
 
-  private static void leaves(NobodySails x, Plain p, int from) {
+  private static void leaves(Plain p, int from) {
     long[][] odds = new long[9][];
     for (int n = 0; n <= 8; n++) {
       p.enumerate(from, p.heading, n);
       odds[n] = p.weights;
     }
     for (int to = 0; to < 128; to++) {
+      NobodySails x = Due.at(p.text());
       if (to % 16 >= p.wide || to / 16 >= p.high) {
         due.is(Due.BAD, x, "could", from, to);
         due.is(Due.BAD, x, "leftAt", 1, from, to);

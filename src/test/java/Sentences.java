@@ -12,20 +12,26 @@ import java.util.regex.Pattern;
 final class Sentences {
   static final int TERMS = 0;
   private static final int PROMISES = 40;
-  private static final int MOST_CALLS = 512;
 
   final Due due;
   NobodySails x = new NobodySails();
+  private final boolean hasDocument;
   private final String[] texts = new String[PROMISES + 1];
   private final boolean[][] told = new boolean[PROMISES + 1][];
   private String latest = "";
   private int comparedBefore;
-  private int calls;
 
   Sentences(Due due, Path document) throws IOException {
     this.due = due;
+    hasDocument = Files.isReadable(document);
+    if (!hasDocument) {
+      // The answers are still compared, so a place without the document can run the test.
+      System.out.println(document + " is not there: the sentences are not compared with it");
+      return;
+    }
     String whole = Files.readString(document).replaceAll("```(text)?", " ").replaceAll("\\s+", " ");
-    texts[TERMS] = between(whole, "## Terms ", "Ahead of the calls `row`");
+    texts[TERMS] = between(whole, "what the court should have asked; images. ", "## The public face")
+        + between(whole, "## Terms ", "Ahead of the calls `row`");
     for (int promise = 1; promise <= PROMISES; promise++) {
       texts[promise] = between(whole, "## Promise " + promise + ": ", "## ").replaceFirst("^.*?`: ", "");
     }
@@ -48,13 +54,19 @@ final class Sentences {
     endLatest();
     latest = promise + ": " + words;
     due.belongsTo("");
+    if (hasDocument) {
+      quote(promise, words);
+    }
+    due.belongsTo(latest);
+    comparedBefore = due.compared();
+  }
+
+  private void quote(int promise, String words) {
     int from = texts[promise].indexOf(words);
     due.same("the document says at " + latest, from >= 0 ? 1 : 0, 1);
     for (int i = from; from >= 0 && i < from + words.length(); i++) {
       told[promise][i] = true;
     }
-    due.belongsTo(latest);
-    comparedBefore = due.compared();
   }
 
   private void endLatest() {
@@ -67,7 +79,7 @@ final class Sentences {
   void end() {
     endLatest();
     due.belongsTo("");
-    for (int i = 0; i <= PROMISES; i++) {
+    for (int i = 0; hasDocument && i <= PROMISES; i++) {
       StringBuilder left = new StringBuilder();
       for (int k = 0; k < told[i].length; k++) {
         left.append(told[i][k] ? '|' : texts[i].charAt(k));
@@ -82,18 +94,14 @@ final class Sentences {
   /** A new object, without a sea. */
   void anew() {
     x = new NobodySails();
-    calls = 0;
   }
 
   /** A new object that has read a text. */
   void at(String text) {
-    anew();
     x = Due.at(text);
-    calls = callsFor(text);
   }
 
   void is(long want, String method, long... arguments) {
-    count(1);
     due.is(want, x, method, arguments);
   }
 
@@ -112,7 +120,6 @@ final class Sentences {
 
   /** The object reads a text; how many STORIES. */
   void reads(long stories, String text) {
-    count(callsFor(text));
     due.reads(x, stories, text);
   }
 
@@ -125,7 +132,6 @@ final class Sentences {
   void refuses(int fault, String marked) {
     int place = marked.indexOf('^');
     String text = marked.substring(0, place) + marked.substring(place + 1);
-    count(callsFor(text) + 2);
     due.faulty(x, fault, place, text);
   }
 
@@ -139,18 +145,6 @@ final class Sentences {
   void ship(long... wanted) {
     for (int what = 0; what < wanted.length; what++) {
       is(wanted[what], "ship", what);
-    }
-  }
-
-  private static int callsFor(String text) {
-    return (text.length() + 7) / 8 + 1;
-  }
-
-  /** Nothing is promised of an object after its 512th call. */
-  private void count(int more) {
-    calls += more;
-    if (calls > MOST_CALLS) {
-      throw new IllegalStateException("too many calls for one object at " + latest);
     }
   }
 }

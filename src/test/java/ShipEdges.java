@@ -70,12 +70,12 @@ final class ShipEdges {
     }
 
     s.says(Sentences.TERMS, "beyond the sea: she stays;");
-    s.at("sea 4 3;wind n 1;ship 0 0 0 9;");
+    s.at("sea 4 3;wind n 1;ship 7 0 0 9;");
     int[][] corners = {{0, 0, 0b11100011}, {3, 0, 0b10001111}, {0, 2, 0b11111000}, {3, 2, 0b00111110}};
     for (int[] corner : corners) {
       for (int head = 0; head < 8; head++) {
         boolean stays = (corner[2] >> head & 1) == 1;
-        s.x.head(head);
+        s.is((head + 7) % 8, "head", head);
         s.is(1, "put", corner[0], corner[1], 0);
         s.is(1, "sailed", 1, 0, 1);
         s.ship(corner[0] + (stays ? 0 : EAST[head]), corner[1] + (stays ? 0 : SOUTH[head]), 0, 1, 0);

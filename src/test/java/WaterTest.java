@@ -183,10 +183,10 @@ final class WaterTest {
         text.append("man ").append(1 + random.nextInt(i < 15 ? 200 : 6));
         text.append(' ').append(1 + random.nextInt(i % 2 == 0 ? 50 : 12)).append(';');
       }
-      NobodySails x = Due.at(text.toString());
       for (int f = 0; f <= 50; f++) {
+        NobodySails x = Due.at(text.toString());
         long least = 1;
-        while (x.leave((int) least, f, 0) != (1 << men) - 1) {
+        while (Due.call(x, "leave", least, f, 0) != (1 << men) - 1) {
           least++;
         }
         due.is(least, x, "leastWater", f);
